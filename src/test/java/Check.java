@@ -1,0 +1,144 @@
+import java.util.ArrayList;
+import java.util.List;
+
+/** What the tests count with: every answer that is not the one due is printed. */
+final class Check {
+    interface Call {
+        int run();
+    }
+
+    private static int asked = 0;
+    private static int wrong = 0;
+
+    private Check() {
+    }
+
+    static void same(String what, Object got, Object want) {
+        asked++;
+        if (!got.equals(want)) {
+            wrong++;
+            System.out.println(what + " answered " + got + ", due is " + want);
+        }
+    }
+
+    static void holds(String what, boolean got) {
+        same(what, got, true);
+    }
+
+    /** The call throws just this class, and changes nothing that can be seen. */
+    static void refuses(ByteFields x, Class<? extends RuntimeException> due, String what, Call call) {
+        List<Integer> before = seen(x);
+        same(what, outcome(call), "throws." + due.getSimpleName());
+        same(what + ", state behind it", seen(x), before);
+    }
+
+    static String outcome(Call call) {
+        try {
+            return String.valueOf(call.run());
+        } catch (RuntimeException e) {
+            return "throws." + e.getClass().getSimpleName();
+        }
+    }
+
+    /** All that calls can tell of an object without a change. */
+    static List<Integer> seen(ByteFields x) {
+        List<Integer> all = new ArrayList<>();
+        for (int what = 0; what < 4; what++) {
+            all.add(x.told(what));
+        }
+        all.addAll(rowOf(x));
+        for (int m = 0; m < x.told(1); m++) {
+            all.addAll(cellsOf(x, m));
+        }
+        for (int p = 0; p < x.told(2); p++) {
+            all.add(x.degree(p));
+            all.addAll(coefficientsOf(x, p));
+        }
+        return all;
+    }
+
+    static List<Integer> rowOf(ByteFields x) {
+        List<Integer> members = new ArrayList<>();
+        for (int k = 0; k < x.told(0); k++) {
+            members.add(x.row(k));
+        }
+        return members;
+    }
+
+    static List<Integer> cellsOf(ByteFields x, int matrix) {
+        List<Integer> cells = new ArrayList<>();
+        for (int i = 0; i < x.size(matrix, 0); i++) {
+            for (int j = 0; j < x.size(matrix, 1); j++) {
+                cells.add(x.cell(matrix, i, j));
+            }
+        }
+        return cells;
+    }
+
+    static List<Integer> coefficientsOf(ByteFields x, int p) {
+        List<Integer> all = new ArrayList<>();
+        for (int k = 0; k <= x.degree(p); k++) {
+            all.add(x.coefficient(p, k));
+        }
+        return all;
+    }
+
+    static void put(ByteFields x, int... members) {
+        for (int member : members) {
+            x.put(member);
+        }
+    }
+
+    static int polynomial(ByteFields x, int... coefficients) {
+        x.drop();
+        put(x, coefficients);
+        return x.polynomial();
+    }
+
+    /** A polynomial with coefficient 1 at these powers, 0 elsewhere. */
+    static int ones(ByteFields x, int... powers) {
+        int top = 0;
+        for (int power : powers) {
+            top = Math.max(top, power);
+        }
+        int[] coefficients = new int[top + 1];
+        for (int power : powers) {
+            coefficients[power] = 1;
+        }
+        return polynomial(x, coefficients);
+    }
+
+    static int matrix(ByteFields x, int rows, int columns, int... cells) {
+        int made = x.matrix(rows, columns);
+        for (int k = 0; k < cells.length; k++) {
+            x.set(made, k / columns, k % columns, cells[k]);
+        }
+        return made;
+    }
+
+    /** As many matrices as there can be. */
+    static void fillMatrices(ByteFields x) {
+        while (x.told(1) < 40) {
+            x.matrix(1, 1);
+        }
+    }
+
+    /** As many polynomials as there can be; THE ROW stays as it is. */
+    static void fillPolynomials(ByteFields x) {
+        List<Integer> members = rowOf(x);
+        x.drop();
+        while (x.told(2) < 40) {
+            x.polynomial();
+        }
+        for (int member : members) {
+            x.put(member);
+        }
+    }
+
+    static void end() {
+        System.out.println(asked + " answers, " + wrong + " not as due");
+        if (wrong != 0) {
+            System.exit(1);
+        }
+    }
+}
