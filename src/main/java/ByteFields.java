@@ -3,7 +3,7 @@
  * matrices, polynomials and THE SPAN over that field.
  *
  * What calls need to work in is made once, in the constructors: a run of calls makes no
- * objects but the matrices and polynomials that it keeps.
+ * objects but the matrices and polynomials that it keeps, and the counts of their parts.
  */
 public final class ByteFields {
     public static final int NONE = -1;
@@ -32,8 +32,6 @@ public final class ByteFields {
     private int matrixCount;
     private final Polynomial[] polynomials = new Polynomial[MOST_NUMBERED];
     private int polynomialCount;
-    /** Counted when first asked for: polynomials stay as they are, and counting is dear. */
-    private final int[][] partCounts = new int[MOST_NUMBERED][];
     private final int[] spanMembers = new int[1 << MOST_SPANNING];
     private int inSpan;
 
@@ -387,11 +385,11 @@ public final class ByteFields {
         if (f.top < 0) {
             return NONE;
         }
-        int[] counts = partCounts[p];
+        int[] counts = f.partCounts;
         if (counts == null) {
             counts = new int[MOST_DEGREE + 1];
             factors.count(f, counts);
-            partCounts[p] = counts;
+            f.partCounts = counts;
         }
         return counts[d];
     }
@@ -575,6 +573,9 @@ public final class ByteFields {
     private static final class Field {
         /** The primes of 255 and of 65535, each of which is there once. */
         private static final int[] PRIMES = {3, 5, 17, 257};
+        /** In an element of tables: the bits of the log, and how many are below the power. */
+        private static final int LOG = 0xFFFF;
+        private static final int POWER = 16;
 
         final int bits;
         final int size;
@@ -597,7 +598,7 @@ public final class ByteFields {
             tables = new int[size];
             int power = 1;
             for (int n = 0; n < units; n++) {
-                tables[n] |= power << 16;
+                tables[n] |= power << POWER;
                 tables[power] |= n;
                 power = slowProduct(power, generator);
             }
@@ -630,7 +631,7 @@ public final class ByteFields {
             int rest = a;
             for (int k = highestBit(a); k >= low; k--) {
                 if ((rest >> k & 1) != 0) {
-                    rest ^= divisor << k - low;
+                    rest ^= divisor << (k - low);
                 }
             }
             return rest;
@@ -688,24 +689,21 @@ public final class ByteFields {
         }
 
         int logOf(int a) {
-            return tables[a] & 0xFFFF;
-        }
-
-        /** The generator to the n, for n from 0 to below twice the units. */
-        private int powerAt(int n) {
-            return tables[n < units ? n : n - units] >>> 16;
+            return tables[a] & LOG;
         }
 
         int mul(int a, int b) {
             if (a == 0 || b == 0) {
                 return 0;
             }
-            return powerAt(logOf(a) + logOf(b));
+            int n = (tables[a] & LOG) + (tables[b] & LOG);
+            return tables[n < units ? n : n - units] >>> POWER;
         }
 
         /** 1 by a; 0 for 0, which callers keep away. */
         int inverse(int a) {
-            return a == 0 ? 0 : powerAt(units - logOf(a));
+            int log = tables[a] & LOG;
+            return a == 0 ? 0 : tables[log == 0 ? 0 : units - log] >>> POWER;
         }
 
         int ratio(int a, int b) {
@@ -718,7 +716,7 @@ public final class ByteFields {
             }
             long turn = n % units;
             long steps = turn < 0 ? turn + units : turn;
-            return powerAt((int) (logOf(a) * steps % units));
+            return tables[(int) (logOf(a) * steps % units)] >>> POWER;
         }
 
         int orderOf(int a) {
@@ -739,11 +737,12 @@ public final class ByteFields {
             if (factor == 0) {
                 return;
             }
-            int log = logOf(factor);
+            int log = tables[factor] & LOG;
             for (int k = 0; k < count; k++) {
                 int member = source[from + k];
                 if (member != 0) {
-                    target[at + k] ^= powerAt(log + logOf(member));
+                    int n = log + (tables[member] & LOG);
+                    target[at + k] ^= tables[n < units ? n : n - units] >>> POWER;
                 }
             }
         }
@@ -834,9 +833,11 @@ public final class ByteFields {
         }
 
         private void exchange(int i, int k) {
-            int[] kept = cells[i];
-            cells[i] = cells[k];
-            cells[k] = kept;
+            for (int j = 0; j < width; j++) {
+                int kept = cells[i][j];
+                cells[i][j] = cells[k][j];
+                cells[k][j] = kept;
+            }
         }
 
         private void free(int column) {
@@ -926,6 +927,8 @@ public final class ByteFields {
         final int[] at;
         /** The degree. */
         int top = NONE;
+        /** By degree, once asked for: a kept polynomial stays as it is, and to count again is dear. */
+        int[] partCounts = null;
 
         Polynomial(int room) {
             at = new int[room];
@@ -1169,16 +1172,9 @@ public final class ByteFields {
             if (k >= left.top) {
                 return NONE;
             }
-            return findAmongLeft(k);
-        }
-
-        private int findAmongLeft(int k) {
             int prefix = 0;
             int ahead = k;
-            for (int j = field.bits - 1; j >= 0; j--) {
-                if (left.top == 1) {
-                    return field.ratio(left.at[0], left.at[1]);
-                }
+            for (int j = field.bits - 1; j >= 0 && left.top > 1; j--) {
                 keepLower(j, prefix);
                 if (ahead < lower.top) {
                     left.copyFrom(lower);
@@ -1188,7 +1184,7 @@ public final class ByteFields {
                     division.toQuotient(left, lower);
                 }
             }
-            return prefix;
+            return field.ratio(left.at[0], left.at[1]);
         }
 
         /** Of the roots that are left, all with this prefix, those without bit j. */

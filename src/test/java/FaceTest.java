@@ -21,13 +21,12 @@ public final class FaceTest {
             "NoSuchElementException", "RuntimeException");
 
     public static void main(String[] args) throws IOException {
-        Path main = Path.of(System.getProperty("main.source", "src/main/java/ByteFields.java"));
         Path document = Path.of(System.getProperty("document", "../shared/DOC.md"));
         face(Files.readString(document));
         visibility();
         names();
         sizes();
-        source(plain(Files.readString(main)));
+        source(plain(Files.readString(Check.MAIN)));
         Check.end();
     }
 

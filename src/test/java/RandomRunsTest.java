@@ -97,7 +97,8 @@ public final class RandomRunsTest {
         try {
             return String.valueOf(call.invoke(target, arguments));
         } catch (InvocationTargetException e) {
-            return "throws." + e.getCause().getClass().getSimpleName();
+            return target instanceof Model ? "throws." + e.getCause().getClass().getSimpleName()
+                    : Check.thrown(e.getCause());
         }
     }
 
