@@ -16,18 +16,29 @@ final class Check {
     }
 
     static final Path MAIN = Path.of(System.getProperty("main.source", "src/main/java/ByteFields.java"));
+    static final Path DOCUMENT = Path.of(System.getProperty("document", "../shared/DOC.md"));
     private static final Set<String> TEXTS = textsOfThrows();
+    private static String about = "";
     private static int asked = 0;
     private static int wrong = 0;
 
     private Check() {
     }
 
+    /** What the answers to come are about, said ahead of each that is not as due. */
+    static void about(String words) {
+        about = words;
+    }
+
+    static int asked() {
+        return asked;
+    }
+
     static void same(String what, Object got, Object want) {
         asked++;
         if (!got.equals(want)) {
             wrong++;
-            System.out.println(what + " answered " + got + ", due is " + want);
+            System.out.println(about + what + " answered " + got + ", due is " + want);
         }
     }
 

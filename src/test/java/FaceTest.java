@@ -4,7 +4,6 @@ import java.lang.reflect.Field;
 import java.lang.reflect.Method;
 import java.lang.reflect.Modifier;
 import java.nio.file.Files;
-import java.nio.file.Path;
 import java.util.ArrayList;
 import java.util.Arrays;
 import java.util.HashSet;
@@ -21,8 +20,7 @@ public final class FaceTest {
             "NoSuchElementException", "RuntimeException");
 
     public static void main(String[] args) throws IOException {
-        Path document = Path.of(System.getProperty("document", "../shared/DOC.md"));
-        face(Files.readString(document));
+        face(Files.readString(Check.DOCUMENT));
         visibility();
         names();
         sizes();

@@ -41,76 +41,28 @@ public final class FieldTest {
         Check.refuses(x, ARGUMENT, "65536 of bits 16", () -> x.put(65536));
     }
 
-    /** Marks each product of two polynomials over bits with degrees that make bits together. */
-    private static boolean[] splitting(int bits) {
-        boolean[] marks = new boolean[1 << bits];
-        for (int degree = 1; degree <= bits / 2; degree++) {
-            for (int a = 1 << degree; a < 2 << degree; a++) {
-                for (int b = 1 << (bits - degree); b < 2 << (bits - degree); b++) {
-                    marks[carryless(a, b) - (1 << bits)] = true;
-                }
-            }
-        }
-        return marks;
-    }
-
-    private static int carryless(int a, int b) {
-        int product = 0;
-        for (int k = 0; b >> k != 0; k++) {
-            product ^= (b >> k & 1) * (a << k);
-        }
-        return product;
-    }
-
-    private static int firstFrom(boolean[] splitting, int start) {
-        int candidate = start & (splitting.length - 1);
-        while (splitting[candidate]) {
-            candidate = (candidate + 1) % splitting.length;
-        }
-        return candidate;
-    }
-
     private static void polysOf8() {
-        boolean[] splitting = splitting(8);
+        boolean[] splitting = SlowField.splitting(8);
         for (int start = -300; start < 600; start++) {
-            Check.same("poly from " + start, new ByteFields(8, start).poly(), firstFrom(splitting, start));
+            Check.same("poly from " + start, new ByteFields(8, start).poly(), SlowField.firstFrom(splitting, start));
         }
         Check.same("poly from the least int", new ByteFields(8, Integer.MIN_VALUE).poly(), 27);
         Check.same("poly from the greatest int", new ByteFields(8, Integer.MAX_VALUE).poly(), 27);
     }
 
     private static void polysOf16() {
-        boolean[] splitting = splitting(16);
+        boolean[] splitting = SlowField.splitting(16);
         int[] starts = {0, 1, 43, 44, 45, 4107, 65535, 65534, 65536, -1, 131071, Integer.MIN_VALUE, 70000};
         for (int start : starts) {
-            Check.same("poly of 16 from " + start, new ByteFields(16, start).poly(), firstFrom(splitting, start));
+            Check.same("poly of 16 from " + start, new ByteFields(16, start).poly(),
+                    SlowField.firstFrom(splitting, start));
         }
         Random random = new Random(1);
         for (int n = 0; n < 60; n++) {
             int start = random.nextInt();
-            Check.same("poly of 16 from " + start, new ByteFields(16, start).poly(), firstFrom(splitting, start));
+            Check.same("poly of 16 from " + start, new ByteFields(16, start).poly(),
+                    SlowField.firstFrom(splitting, start));
         }
-    }
-
-    private static int slowProduct(int bits, int poly, int a, int b) {
-        long product = 0;
-        for (int k = 0; k < bits; k++) {
-            product ^= (long) (b >> k & 1) * ((long) a << k);
-        }
-        for (int k = 2 * bits; k >= bits; k--) {
-            if ((product >> k & 1) != 0) {
-                product ^= ((1L << bits) | poly) << (k - bits);
-            }
-        }
-        return (int) product;
-    }
-
-    private static int slowOrder(int bits, int poly, int a) {
-        int order = 1;
-        for (int power = a; power != 1; power = slowProduct(bits, poly, power, a)) {
-            order++;
-        }
-        return order;
     }
 
     private static void generators() {
@@ -125,7 +77,7 @@ public final class FieldTest {
     private static void oneGenerator(int bits, int start) {
         ByteFields x = new ByteFields(bits, start);
         int least = 2;
-        while (slowOrder(bits, x.poly(), least) != (1 << bits) - 1) {
+        while (SlowField.order(bits, x.poly(), least) != (1 << bits) - 1) {
             least++;
         }
         Check.same("generator of " + bits + " with " + x.poly(), x.generator(), least);
@@ -136,7 +88,7 @@ public final class FieldTest {
             ByteFields x = new ByteFields(8, poly);
             for (int a = 0; a < 256; a++) {
                 for (int b = 0; b < 256; b++) {
-                    Check.same("product(" + a + ", " + b + ")", x.product(a, b), slowProduct(8, poly, a, b));
+                    Check.same("product(" + a + ", " + b + ")", x.product(a, b), SlowField.product(8, poly, a, b));
                 }
             }
         }
@@ -146,7 +98,7 @@ public final class FieldTest {
             for (int n = 0; n < 20000; n++) {
                 int a = n < 20 ? n % 5 * 16383 : random.nextInt(65536);
                 int b = n < 20 ? 65535 - n / 5 : random.nextInt(65536);
-                Check.same("product(" + a + ", " + b + ")", x.product(a, b), slowProduct(16, x.poly(), a, b));
+                Check.same("product(" + a + ", " + b + ")", x.product(a, b), SlowField.product(16, x.poly(), a, b));
             }
         }
     }
@@ -220,7 +172,7 @@ public final class FieldTest {
         for (int poly : new int[] {29, 27, 255}) {
             ByteFields x = new ByteFields(8, poly);
             for (int a = 1; a < 256; a++) {
-                Check.same("order(" + a + ")", x.order(a), slowOrder(8, x.poly(), a));
+                Check.same("order(" + a + ")", x.order(a), SlowField.order(8, x.poly(), a));
             }
             Check.same("order(0)", x.order(0), 0);
         }
@@ -229,7 +181,7 @@ public final class FieldTest {
         for (int divisor : divisors) {
             Check.same("a member of order " + divisor, y.order(y.power(2, 65535 / divisor)), divisor);
             int twice = y.power(2, 2L * (65535 / divisor));
-            Check.same("another of order " + divisor, y.order(twice), slowOrder(16, 4107, twice));
+            Check.same("another of order " + divisor, y.order(twice), SlowField.order(16, 4107, twice));
         }
         Check.same("order(0) of 16", y.order(0), 0);
     }
