@@ -47,7 +47,7 @@ final class Check {
     }
 
     /** The call throws just this class, and changes nothing that can be seen. */
-    static void refuses(ByteFields x, Class<? extends RuntimeException> due, String what, Call call) {
+    static void refuses(Subject x, Class<? extends RuntimeException> due, String what, Call call) {
         List<Integer> before = seen(x);
         same(what, outcome(call), "throws." + due.getSimpleName());
         same(what + ", state behind it", seen(x), before);
@@ -61,7 +61,7 @@ final class Check {
         }
     }
 
-    /** An exception of the class has a text that stands in it; the machine's own have others. */
+    /** An exception of the class has a text that stands in it, or none if so thrown; the machine's have others. */
     static String thrown(Throwable e) {
         String name = e.getClass().getSimpleName();
         return TEXTS.contains(name + ": " + e.getMessage()) ? "throws." + name : "the machine's " + e;
@@ -70,7 +70,7 @@ final class Check {
     private static Set<String> textsOfThrows() {
         Set<String> texts = new HashSet<>();
         try {
-            Matcher found = Pattern.compile("throw new (\\w+)\\(\"([^\"]+)\"\\)").matcher(Files.readString(MAIN));
+            Matcher found = Pattern.compile("throw new (\\w+)\\((?:\"([^\"]+)\")?\\)").matcher(Files.readString(MAIN));
             while (found.find()) {
                 texts.add(found.group(1) + ": " + found.group(2));
             }
@@ -81,7 +81,7 @@ final class Check {
     }
 
     /** All that calls can tell of an object without a change. */
-    static List<Integer> seen(ByteFields x) {
+    static List<Integer> seen(Subject x) {
         List<Integer> all = new ArrayList<>();
         for (int what = 0; what < 4; what++) {
             all.add(x.told(what));
@@ -97,7 +97,7 @@ final class Check {
         return all;
     }
 
-    static List<Integer> rowOf(ByteFields x) {
+    static List<Integer> rowOf(Subject x) {
         List<Integer> members = new ArrayList<>();
         for (int k = 0; k < x.told(0); k++) {
             members.add(x.row(k));
@@ -105,7 +105,7 @@ final class Check {
         return members;
     }
 
-    static List<Integer> cellsOf(ByteFields x, int matrix) {
+    static List<Integer> cellsOf(Subject x, int matrix) {
         List<Integer> cells = new ArrayList<>();
         for (int i = 0; i < x.size(matrix, 0); i++) {
             for (int j = 0; j < x.size(matrix, 1); j++) {
@@ -115,7 +115,7 @@ final class Check {
         return cells;
     }
 
-    static List<Integer> coefficientsOf(ByteFields x, int p) {
+    static List<Integer> coefficientsOf(Subject x, int p) {
         List<Integer> all = new ArrayList<>();
         for (int k = 0; k <= x.degree(p); k++) {
             all.add(x.coefficient(p, k));
@@ -123,20 +123,20 @@ final class Check {
         return all;
     }
 
-    static void put(ByteFields x, int... members) {
+    static void put(Subject x, int... members) {
         for (int member : members) {
             x.put(member);
         }
     }
 
-    static int polynomial(ByteFields x, int... coefficients) {
+    static int polynomial(Subject x, int... coefficients) {
         x.drop();
         put(x, coefficients);
         return x.polynomial();
     }
 
     /** A polynomial with coefficient 1 at these powers, 0 elsewhere. */
-    static int ones(ByteFields x, int... powers) {
+    static int ones(Subject x, int... powers) {
         int top = 0;
         for (int power : powers) {
             top = Math.max(top, power);
@@ -148,7 +148,7 @@ final class Check {
         return polynomial(x, coefficients);
     }
 
-    static int matrix(ByteFields x, int rows, int columns, int... cells) {
+    static int matrix(Subject x, int rows, int columns, int... cells) {
         int made = x.matrix(rows, columns);
         for (int k = 0; k < cells.length; k++) {
             x.set(made, k / columns, k % columns, cells[k]);
@@ -157,14 +157,14 @@ final class Check {
     }
 
     /** As many matrices as there can be. */
-    static void fillMatrices(ByteFields x) {
+    static void fillMatrices(Subject x) {
         while (x.told(1) < 40) {
             x.matrix(1, 1);
         }
     }
 
     /** As many polynomials as there can be; THE ROW stays as it is. */
-    static void fillPolynomials(ByteFields x) {
+    static void fillPolynomials(Subject x) {
         List<Integer> members = rowOf(x);
         x.drop();
         while (x.told(2) < 40) {

@@ -43,13 +43,13 @@ final class FieldSentences extends Sentences {
 
     private static void bits() {
         once(1, "BITS is 16 if bits is 16", () -> {
-            ByteFields x = new ByteFields(16, 0);
+            Subject x = new Subject(16, 0);
             same("the greatest member", x.put(65535), 1);
             refuses(x, ARGUMENT, "put(65536)", () -> x.put(65536));
         });
         once(1, ", else 8.", () -> {
             for (int bits : new int[] {8, 0, 1, 7, 9, 15, 17, 24, 32, -1, -8, -16, 272, 65552, LEAST, GREATEST}) {
-                ByteFields x = new ByteFields(bits, 0);
+                Subject x = new Subject(bits, 0);
                 same("the greatest member of bits " + bits, x.put(255), 1);
                 refuses(x, ARGUMENT, "put(256) of bits " + bits, () -> x.put(256));
             }
@@ -57,7 +57,7 @@ final class FieldSentences extends Sentences {
     }
 
     private static int polyFrom(int bits, int start) {
-        return new ByteFields(bits, start).poly();
+        return new Subject(bits, start).poly();
     }
 
     private static void poly() {

@@ -19,7 +19,7 @@ final class MatrixSentences extends Sentences {
         solveRefused();
     }
 
-    private static int identity(ByteFields x, int side) {
+    private static int identity(Subject x, int side) {
         int made = x.matrix(side, side);
         for (int i = 0; i < side; i++) {
             x.set(made, i, i, 1);
@@ -471,7 +471,7 @@ final class MatrixSentences extends Sentences {
         });
     }
 
-    private static void solved(ByteFields x, int matrix, int[] b, int due, Integer... row) {
+    private static void solved(Subject x, int matrix, int[] b, int due, Integer... row) {
         x.drop();
         Check.put(x, b);
         same("solve(" + matrix + ")", x.solve(matrix), due);

@@ -26,12 +26,12 @@ public final class MatrixTest {
         Check.end();
     }
 
-    private static ByteFields made(int bits) {
-        return new ByteFields(bits, bits == 8 ? 29 : 4107);
+    private static Subject made(int bits) {
+        return new Subject(bits, bits == 8 ? 29 : 4107);
     }
 
     private static void zeros(int bits) {
-        ByteFields x = made(bits);
+        Subject x = made(bits);
         Check.put(x, 7);
         for (int bad : NO_SIDES) {
             Check.refuses(x, ARGUMENT, "rows " + bad, () -> x.matrix(bad, 1));
@@ -52,7 +52,7 @@ public final class MatrixTest {
     }
 
     private static void powers(int bits) {
-        ByteFields x = made(bits);
+        Subject x = made(bits);
         Check.put(x, 5, 0, 1, 2, 200, 201, 202, 255);
         List<Integer> members = Check.rowOf(x);
         Check.same("powers(8, 8)", x.powers(8, 8), 0);
@@ -87,7 +87,7 @@ public final class MatrixTest {
     }
 
     private static void sums(int bits) {
-        ByteFields x = made(bits);
+        Subject x = made(bits);
         int[] members = {0, 1, 2, 3, 4, 5, 6, 7, 255, 254, 100, 101, 50, 51, 128, 129};
         Check.put(x, members);
         Check.same("sums(8, 8)", x.sums(8, 8), 0);
@@ -127,7 +127,7 @@ public final class MatrixTest {
     }
 
     private static void sizesAndCells(int bits) {
-        ByteFields x = made(bits);
+        Subject x = made(bits);
         int size = 1 << bits;
         x.matrix(2, 3);
         x.matrix(3, 2);
@@ -161,7 +161,7 @@ public final class MatrixTest {
     }
 
     private static void products(int bits) {
-        ByteFields x = made(bits);
+        Subject x = made(bits);
         Check.matrix(x, 2, 3, 1, 2, 3, 4, 5, 6);
         Check.matrix(x, 3, 1, 7, 8, 9);
         Check.put(x, 3);
@@ -193,7 +193,7 @@ public final class MatrixTest {
     private static void inverses(int bits) {
         Random random = new Random(bits);
         for (int n = 1; n <= 8; n++) {
-            ByteFields x = made(bits);
+            Subject x = made(bits);
             fillRandom(x, x.matrix(n, n), random, 1 << bits);
             x.set(0, 0, 0, 0);
             List<Integer> before = Check.cellsOf(x, 0);
@@ -204,7 +204,7 @@ public final class MatrixTest {
                 isIdentity(x, x.times(1, 0), n);
             }
         }
-        ByteFields x = made(bits);
+        Subject x = made(bits);
         Check.matrix(x, 3, 3, 0, 0, 2, 1, 0, 0, 0, 1, 0);
         Check.matrix(x, 3, 3, 1, 2, 3, 4, 5, 6, 5, 7, 5);
         Check.matrix(x, 2, 3, 1, 0, 0, 0, 1, 0);
@@ -226,7 +226,7 @@ public final class MatrixTest {
         Check.refuses(x, INDEX, "no matrix, no room", () -> x.invert(40));
     }
 
-    private static void fillRandom(ByteFields x, int matrix, Random random, int below) {
+    private static void fillRandom(Subject x, int matrix, Random random, int below) {
         for (int i = 0; i < x.size(matrix, 0); i++) {
             for (int j = 0; j < x.size(matrix, 1); j++) {
                 x.set(matrix, i, j, random.nextInt(below));
@@ -234,7 +234,7 @@ public final class MatrixTest {
         }
     }
 
-    private static void isIdentity(ByteFields x, int matrix, int n) {
+    private static void isIdentity(Subject x, int matrix, int n) {
         for (int i = 0; i < n; i++) {
             for (int j = 0; j < n; j++) {
                 Check.same("identity of " + n + " at " + i + ", " + j, x.cell(matrix, i, j), i == j ? 1 : 0);
@@ -243,8 +243,8 @@ public final class MatrixTest {
     }
 
     private static void ranks(int bits) {
-        ByteFields x = made(bits);
         for (int rank = 0; rank <= 8; rank++) {
+            Subject x = made(bits);
             int left = x.matrix(8, Math.max(rank, 1));
             int right = x.matrix(Math.max(rank, 1), 8);
             for (int k = 0; k < rank; k++) {
@@ -256,7 +256,7 @@ public final class MatrixTest {
             }
             Check.same("rank of a product by " + rank, x.rank(x.times(left, right)), rank);
         }
-        ByteFields y = made(bits);
+        Subject y = made(bits);
         Check.matrix(y, 2, 3, 0, 0, 1, 0, 0, 2);
         Check.matrix(y, 3, 2, 0, 0, 0, 1, 2, 0);
         Check.matrix(y, 1, 8, 0, 0, 0, 0, 0, 0, 0, 9);
@@ -272,7 +272,7 @@ public final class MatrixTest {
     }
 
     private static void determinants(int bits) {
-        ByteFields x = made(bits);
+        Subject x = made(bits);
         Check.matrix(x, 2, 2, 3, 5, 7, 11);
         Check.same("determinant of 2", x.determinant(0), x.product(3, 11) ^ x.product(5, 7));
         Check.matrix(x, 3, 3, 0, 4, 0, 0, 0, 5, 6, 0, 0);
@@ -300,7 +300,7 @@ public final class MatrixTest {
     }
 
     private static void singular(int bits) {
-        ByteFields x = made(bits);
+        Subject x = made(bits);
         for (int k = 0; k < 16; k++) {
             x.put(k * 3 + 1);
         }
@@ -331,7 +331,7 @@ public final class MatrixTest {
     }
 
     private static void solutions(int bits) {
-        ByteFields x = made(bits);
+        Subject x = made(bits);
         // Column 0 is 0, column 2 is twice column 1, column 4 is the sum of columns 1 and 3.
         Check.matrix(x, 3, 5, 0, 1, 2, 0, 1, 0, 3, 6, 1, 2, 0, 0, 0, 5, 5);
         Check.put(x, 7, x.product(3, 7) ^ 4, x.product(5, 4));
@@ -360,7 +360,7 @@ public final class MatrixTest {
     }
 
     private static void inconsistent(int bits) {
-        ByteFields x = made(bits);
+        Subject x = made(bits);
         Check.matrix(x, 4, 2, 1, 2, 3, 4, 5, 6, 7, 8);
         int[] b = new int[4];
         for (int i = 0; i < 4; i++) {

@@ -24,7 +24,7 @@ final class PolynomialSentences extends Sentences {
     }
 
     /** Room for just one more. */
-    private static void fillButOne(ByteFields x) {
+    private static void fillButOne(Subject x) {
         List<Integer> members = Check.rowOf(x);
         x.drop();
         while (x.told(2) < 39) {
@@ -33,7 +33,7 @@ final class PolynomialSentences extends Sentences {
         members.forEach(x::put);
     }
 
-    private static List<Integer> coefficients(ByteFields x, int p) {
+    private static List<Integer> coefficients(Subject x, int p) {
         return Check.coefficientsOf(x, p);
     }
 
@@ -532,7 +532,7 @@ final class PolynomialSentences extends Sentences {
     }
 
     /** x squared + x + c is one part for half of all c: here for the least, found by trying every member. */
-    private static int unsplitSquare(ByteFields x, int size) {
+    private static int unsplitSquare(Subject x, int size) {
         boolean[] made = new boolean[size];
         for (int member = 0; member < size; member++) {
             made[SlowField.product(bits(size), x.poly(), member, member) ^ member] = true;
@@ -586,7 +586,7 @@ final class PolynomialSentences extends Sentences {
         });
     }
 
-    private static List<Integer> partsOf(ByteFields x, int p) {
+    private static List<Integer> partsOf(Subject x, int p) {
         List<Integer> degrees = new ArrayList<>();
         for (int d = 1; d <= 64; d++) {
             degrees.addAll(Collections.nCopies(x.parts(p, d), d));
@@ -595,7 +595,7 @@ final class PolynomialSentences extends Sentences {
     }
 
     /** x to the 64 + 3 x to the k + x + c, found by search with Model: none of its parts has a degree up to 32. */
-    private static int unsplitMost(ByteFields x) {
+    private static int unsplitMost(Subject x) {
         int k = x.poly() == 29 || x.poly() == 27 ? 7 : 3;
         int c = x.poly() == 29 ? 4 : x.poly() == 27 ? 13 : x.poly() == 4107 ? 23 : 26;
         int[] coefficients = new int[65];

@@ -31,12 +31,12 @@ public final class PolynomialTest {
         Check.end();
     }
 
-    private static ByteFields made(int bits) {
-        return new ByteFields(bits, bits == 8 ? 27 : 4107);
+    private static Subject made(int bits) {
+        return new Subject(bits, bits == 8 ? 27 : 4107);
     }
 
     private static void madeFromRow(int bits) {
-        ByteFields x = made(bits);
+        Subject x = made(bits);
         Check.same("polynomial of no members", x.polynomial(), 0);
         Check.same("its degree", x.degree(0), ByteFields.NONE);
         Check.put(x, 0, 0, 0);
@@ -64,7 +64,7 @@ public final class PolynomialTest {
     }
 
     private static void through(int bits) {
-        ByteFields x = made(bits);
+        Subject x = made(bits);
         Check.same("through no points", x.through(), 0);
         Check.same("its degree", x.degree(0), ByteFields.NONE);
         Check.put(x, 5, 0);
@@ -103,7 +103,7 @@ public final class PolynomialTest {
     }
 
     private static void degreesAndValues(int bits) {
-        ByteFields x = made(bits);
+        Subject x = made(bits);
         int size = 1 << bits;
         int p = Check.polynomial(x, 5, 6, 0, 7);
         for (int member : new int[] {0, 1, 2, 3, 100, 255, size - 1}) {
@@ -131,7 +131,7 @@ public final class PolynomialTest {
     }
 
     private static void sums(int bits) {
-        ByteFields x = made(bits);
+        Subject x = made(bits);
         Check.polynomial(x, 1, 2, 3);
         Check.polynomial(x, 4, 2, 3);
         Check.polynomial(x, 8);
@@ -148,7 +148,7 @@ public final class PolynomialTest {
     }
 
     private static void products(int bits) {
-        ByteFields x = made(bits);
+        Subject x = made(bits);
         Check.polynomial(x, 1, 2);
         Check.polynomial(x, 3, 0, 5);
         Check.put(x, 1);
@@ -172,7 +172,7 @@ public final class PolynomialTest {
     }
 
     private static void quotients(int bits) {
-        ByteFields x = made(bits);
+        Subject x = made(bits);
         Random random = new Random(4);
         for (int n = 0; n < 8; n++) {
             int p = random(x, random, n * 8);
@@ -186,7 +186,7 @@ public final class PolynomialTest {
             int again = x.plus(x.multiply(quotient, q), rest);
             Check.same("quotient and rest", Check.coefficientsOf(x, again), Check.coefficientsOf(x, p));
         }
-        ByteFields y = made(bits);
+        Subject y = made(bits);
         int p = Check.polynomial(y, 1, 2, 3);
         int zero = Check.polynomial(y);
         int seven = Check.polynomial(y, 7);
@@ -205,7 +205,7 @@ public final class PolynomialTest {
         Check.refuses(y, INDEX, "no such one by 0", () -> y.divide(-1, zero, true));
     }
 
-    private static int random(ByteFields x, Random random, int degree) {
+    private static int random(Subject x, Random random, int degree) {
         int[] coefficients = new int[degree + 1];
         for (int k = 0; k <= degree; k++) {
             coefficients[k] = random.nextInt(256);
@@ -215,7 +215,7 @@ public final class PolynomialTest {
     }
 
     private static void commonDivisors(int bits) {
-        ByteFields x = made(bits);
+        Subject x = made(bits);
         int a = Check.polynomial(x, 1, 1);
         int b = Check.polynomial(x, 2, 1);
         int c = Check.polynomial(x, 3, 7);
@@ -244,7 +244,7 @@ public final class PolynomialTest {
 
     private static void roots(int bits) {
         int size = 1 << bits;
-        ByteFields x = made(bits);
+        Subject x = made(bits);
         int zero = Check.polynomial(x);
         for (int k : new int[] {0, 1, 255, size - 1}) {
             Check.same("root of 0", x.root(zero, k), k);
@@ -270,7 +270,7 @@ public final class PolynomialTest {
         }
     }
 
-    private static void rootsByTrial(ByteFields x, int p, int size) {
+    private static void rootsByTrial(Subject x, int p, int size) {
         int k = 0;
         for (int member = 0; member < size; member++) {
             if (x.value(p, member) == 0) {
@@ -285,7 +285,7 @@ public final class PolynomialTest {
         int size = 1 << bits;
         Random random = new Random(6);
         for (int n = 0; n < 10; n++) {
-            ByteFields x = made(bits);
+            Subject x = made(bits);
             for (int k = 0; k < 64; k++) {
                 // Near one another, far apart, and the least and the greatest.
                 int member = n == 0 ? k : n == 1 ? size - 1 - k : random.nextInt(n < 6 ? 256 : size);
@@ -298,7 +298,7 @@ public final class PolynomialTest {
     }
 
     /** Coefficients of the product of x + v over all v, each as often as it is there. */
-    private static int productOfRoots(ByteFields x, List<Integer> members) {
+    private static int productOfRoots(Subject x, List<Integer> members) {
         int[] coefficients = new int[members.size() + 1];
         coefficients[0] = 1;
         for (int n = 0; n < members.size(); n++) {
@@ -311,7 +311,7 @@ public final class PolynomialTest {
 
     private static void often(int bits) {
         int size = 1 << bits;
-        ByteFields x = made(bits);
+        Subject x = made(bits);
         List<Integer> members = new ArrayList<>();
         for (int k = 0; k < 64; k++) {
             members.add(k < 1 ? 7 : k < 3 ? 0 : k < 23 ? size - 1 : 200);
@@ -333,7 +333,7 @@ public final class PolynomialTest {
         }
     }
 
-    private static List<Integer> partsOf(ByteFields x, int p) {
+    private static List<Integer> partsOf(Subject x, int p) {
         List<Integer> degrees = new ArrayList<>();
         for (int d = 1; d <= 64; d++) {
             for (int k = 0; k < x.parts(p, d); k++) {
@@ -344,7 +344,7 @@ public final class PolynomialTest {
     }
 
     private static void partsOfKnown(int bits) {
-        ByteFields x = made(bits);
+        Subject x = made(bits);
         int zero = Check.polynomial(x);
         for (int d = 1; d <= 64; d++) {
             Check.same("parts of 0", x.parts(zero, d), ByteFields.NONE);
@@ -378,8 +378,8 @@ public final class PolynomialTest {
             {11, 2, 0}, {12, 3, 0}, {15, 1, 0}, {16, 5, 3, 1, 0}, {17, 3, 0}, {20, 3, 0}, {31, 3, 0}, {32, 7, 3, 2, 0},
             {36, 9, 0}, {60, 1, 0}, {61, 5, 2, 1, 0}, {63, 1, 0}, {64, 4, 3, 1, 0}};
         for (int bits : new int[] {8, 16}) {
-            ByteFields x = made(bits);
             for (int[] powers : unsplit) {
+                Subject x = made(bits);
                 int degree = powers[0];
                 int count = Integer.lowestOneBit(degree | bits);
                 List<Integer> due = new ArrayList<>();
@@ -395,7 +395,7 @@ public final class PolynomialTest {
     private static void partsByTrial() {
         Random random = new Random(7);
         for (int n = 0; n < 30; n++) {
-            ByteFields x = made(8);
+            Subject x = made(8);
             int degree = 2 + random.nextInt(4);
             int[] coefficients = new int[degree + 1];
             for (int k = 0; k < degree; k++) {
@@ -420,7 +420,7 @@ public final class PolynomialTest {
     }
 
     /** Takes a part with 1 as highest coefficient out as often as it goes. */
-    private static int[] takeOut(ByteFields x, int[] from, List<Integer> degrees, int... part) {
+    private static int[] takeOut(Subject x, int[] from, List<Integer> degrees, int... part) {
         int[] left = from;
         int degree = part.length - 1;
         while (left.length > degree) {
@@ -442,7 +442,7 @@ public final class PolynomialTest {
     }
 
     private static void wrongNumbers(int bits) {
-        ByteFields x = made(bits);
+        Subject x = made(bits);
         Check.polynomial(x, 1, 2);
         Check.polynomial(x, 3);
         for (int bad : new int[] {-1, 2, 40, Integer.MIN_VALUE, Integer.MAX_VALUE}) {
@@ -467,7 +467,7 @@ public final class PolynomialTest {
     }
 
     private static void noRoom(int bits) {
-        ByteFields x = made(bits);
+        Subject x = made(bits);
         Check.polynomial(x, 1, 2);
         int zero = Check.polynomial(x);
         Check.ones(x, 64);

@@ -15,10 +15,12 @@ public final class RandomRunsTest {
         Integer.MIN_VALUE, Integer.MAX_VALUE};
     private static final Map<String, Integer> ANSWERED = new TreeMap<>();
     private static final Map<String, Method> OF_MODEL = new HashMap<>();
+    /** A run leaves room for the calls that lay THE ROW once more. */
+    private static final int MOST_TO_MAKE_AGAIN = 340;
 
     private final Random random;
     private final int size;
-    private final ByteFields fields;
+    private final Subject fields;
     private final Model model;
     private final String name;
 
@@ -26,7 +28,7 @@ public final class RandomRunsTest {
         random = new Random(seed);
         size = bits == 16 ? 65536 : 256;
         int poly = random.nextInt();
-        fields = new ByteFields(bits, poly);
+        fields = new Subject(bits, poly);
         model = new Model(bits, poly);
         name = "run " + seed + " of " + bits;
     }
@@ -35,12 +37,13 @@ public final class RandomRunsTest {
         List<Method> calls = new ArrayList<>();
         for (Method method : ByteFields.class.getDeclaredMethods()) {
             if (java.lang.reflect.Modifier.isPublic(method.getModifiers())) {
-                calls.add(method);
-                OF_MODEL.put(method.getName(), Model.class.getMethod(method.getName(), method.getParameterTypes()));
+                Class<?>[] types = method.getParameterTypes();
+                calls.add(Subject.class.getDeclaredMethod(method.getName(), types));
+                OF_MODEL.put(method.getName(), Model.class.getMethod(method.getName(), types));
             }
         }
         calls.sort(Comparator.comparing(Method::getName));
-        for (int seed = 0; seed < 400; seed++) {
+        for (int seed = 0; seed < 1600; seed++) {
             new RandomRunsTest(seed, seed % 8 == 7 ? 16 : 8).run(calls, seed);
         }
         for (Method call : calls) {
@@ -52,7 +55,7 @@ public final class RandomRunsTest {
 
     private void run(List<Method> calls, int seed) throws ReflectiveOperationException {
         int count = 60 + seed % 5 * 100;
-        for (int n = 0; n < count; n++) {
+        for (int n = 0; n < count && fields.callsToMakeAgain() < MOST_TO_MAKE_AGAIN; n++) {
             Method call = calls.get(random.nextInt(calls.size()));
             prepare(call.getName());
             ask(call, argumentsOf(call));
@@ -68,17 +71,19 @@ public final class RandomRunsTest {
         for (int what = 0; what < 4; what++) {
             ask(named.get("told"), what);
         }
-        for (int k = 0; k <= fields.told(0); k++) {
+        for (int k = 0; k <= model.told(0); k++) {
             ask(named.get("row"), k);
         }
-        for (int m = 0; m < fields.told(1); m++) {
-            for (int k = 0; k < 64; k++) {
-                ask(named.get("cell"), m, k / 8, k % 8);
+        for (int m = 0; m < model.told(1); m++) {
+            ask(named.get("size"), m, 0);
+            ask(named.get("size"), m, 1);
+            for (int k = 0; k < model.size(m, 0) * model.size(m, 1); k++) {
+                ask(named.get("cell"), m, k / model.size(m, 1), k % model.size(m, 1));
             }
         }
-        for (int p = 0; p < fields.told(2); p++) {
+        for (int p = 0; p < model.told(2); p++) {
             ask(named.get("degree"), p);
-            for (int k = 0; k <= fields.degree(p); k++) {
+            for (int k = 0; k <= model.degree(p); k++) {
                 ask(named.get("coefficient"), p, k);
             }
         }
@@ -118,10 +123,10 @@ public final class RandomRunsTest {
                 fill(random.nextInt(random.nextInt(4) == 0 ? 8 : 5));
                 break;
             case "back":
-                fill(fields.told(3));
+                fill(model.told(3));
                 break;
             case "solve":
-                fill(fields.told(1) == 0 ? 1 : fields.size(random.nextInt(fields.told(1)), 0));
+                fill(model.told(1) == 0 ? 1 : model.size(random.nextInt(model.told(1)), 0));
                 break;
             case "powers":
                 fill(1 + random.nextInt(4));
@@ -138,10 +143,10 @@ public final class RandomRunsTest {
 
     private void fillMatrix() {
         int kind = random.nextInt(3);
-        int matrix = one(fields.told(1));
-        if (matrix < fields.told(1)) {
-            for (int i = 0; i < fields.size(matrix, 0); i++) {
-                for (int j = 0; j < fields.size(matrix, 1); j++) {
+        int matrix = one(model.told(1));
+        if (matrix < model.told(1)) {
+            for (int i = 0; i < model.size(matrix, 0); i++) {
+                for (int j = 0; j < model.size(matrix, 1); j++) {
                     int member = member(kind);
                     fields.set(matrix, i, j, member);
                     model.set(matrix, i, j, member);
@@ -189,11 +194,11 @@ public final class RandomRunsTest {
     /** Sides that go with as many members as THE ROW has. */
     private void fitToRow(String call, Object[] arguments) {
         if (call.equals("powers")) {
-            arguments[0] = fields.told(0);
-        } else if (call.equals("sums") && fields.told(0) > 1) {
-            int rows = 1 + random.nextInt(fields.told(0) - 1);
+            arguments[0] = model.told(0);
+        } else if (call.equals("sums") && model.told(0) > 1) {
+            int rows = 1 + random.nextInt(model.told(0) - 1);
             arguments[0] = rows;
-            arguments[1] = fields.told(0) - rows;
+            arguments[1] = model.told(0) - rows;
         }
     }
 
@@ -208,21 +213,21 @@ public final class RandomRunsTest {
             case "matrix": case "powers": case "sums":
                 return 1 + random.nextInt(random.nextInt(20) == 0 ? 8 : 4);
             case "size":
-                return place == 0 ? one(fields.told(1)) : random.nextInt(2);
+                return place == 0 ? one(model.told(1)) : random.nextInt(2);
             case "cell": case "set":
-                return place == 0 ? one(fields.told(1)) : place == 3 ? member(2) : random.nextInt(4);
+                return place == 0 ? one(model.told(1)) : place == 3 ? member(2) : random.nextInt(4);
             case "times": case "invert": case "rank": case "determinant": case "singular": case "solve":
-                return one(fields.told(1));
+                return one(model.told(1));
             case "coefficient":
-                return place == 0 ? one(fields.told(2)) : random.nextInt(9);
+                return place == 0 ? one(model.told(2)) : random.nextInt(9);
             case "value": case "often":
-                return place == 0 ? one(fields.told(2)) : member(2);
+                return place == 0 ? one(model.told(2)) : member(2);
             case "root":
-                return place == 0 ? one(fields.told(2)) : random.nextInt(3);
+                return place == 0 ? one(model.told(2)) : random.nextInt(3);
             case "parts":
-                return place == 0 ? one(fields.told(2)) : 1 + random.nextInt(random.nextInt(3) == 0 ? 64 : 4);
+                return place == 0 ? one(model.told(2)) : 1 + random.nextInt(random.nextInt(3) == 0 ? 64 : 4);
             default:
-                return one(fields.told(2));
+                return one(model.told(2));
         }
     }
 

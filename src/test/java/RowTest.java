@@ -4,12 +4,12 @@ import java.util.List;
 public final class RowTest {
     public static void main(String[] args) {
         for (int bits : new int[] {8, 16}) {
-            putsAndDrops(new ByteFields(bits, 43), bits == 8 ? 256 : 65536);
+            putsAndDrops(new Subject(bits, 43), bits == 8 ? 256 : 65536);
         }
         Check.end();
     }
 
-    private static void putsAndDrops(ByteFields x, int size) {
+    private static void putsAndDrops(Subject x, int size) {
         Check.same("drop of none", x.drop(), 0);
         for (int k = 0; k < 130; k++) {
             Check.same("row ahead of its member", x.row(k), ByteFields.NONE);

@@ -2,7 +2,7 @@
 abstract class Sentences {
     interface Body {
         /** A new object, and how many members its field has. */
-        void run(ByteFields x, int size);
+        void run(Subject x, int size);
     }
 
     static final int NONE = ByteFields.NONE;
@@ -22,7 +22,7 @@ abstract class Sentences {
     static void test(int promise, String words, Body body) {
         for (int[] field : FIELDS) {
             String about = "promise " + promise + ", '" + words + "', " + field[0] + " bits with " + field[1] + ": ";
-            run(promise, words, about, () -> body.run(new ByteFields(field[0], field[1]), 1 << field[0]));
+            run(promise, words, about, () -> body.run(new Subject(field[0], field[1]), 1 << field[0]));
         }
     }
 
@@ -48,7 +48,7 @@ abstract class Sentences {
         Check.same(what, got, want);
     }
 
-    static void refuses(ByteFields x, Class<? extends RuntimeException> due, String what, Check.Call call) {
+    static void refuses(Subject x, Class<? extends RuntimeException> due, String what, Check.Call call) {
         Check.refuses(x, due, what, call);
     }
 
@@ -66,21 +66,21 @@ abstract class Sentences {
     }
 
     /** The member is put as often as told. */
-    static void putMany(ByteFields x, int count, int member) {
+    static void putMany(Subject x, int count, int member) {
         for (int k = 0; k < count; k++) {
             x.put(member);
         }
     }
 
     /** Members 0, 1, 2, .., none alike. */
-    static void putRising(ByteFields x, int count) {
+    static void putRising(Subject x, int count) {
         for (int k = 0; k < count; k++) {
             x.put(k);
         }
     }
 
     /** The product of x + v over all v. */
-    static int withRoots(ByteFields x, int... members) {
+    static int withRoots(Subject x, int... members) {
         int[] coefficients = new int[members.length + 1];
         coefficients[0] = 1;
         for (int n = 0; n < members.length; n++) {

@@ -14,14 +14,14 @@ final class SpanSentences extends Sentences {
     }
 
     /** THE SPAN's members, as the values there of polynomial p, which has to be x. */
-    private static List<Integer> members(ByteFields x, int p) {
+    private static List<Integer> members(Subject x, int p) {
         x.forth(p);
         List<Integer> members = Check.rowOf(x);
         x.drop();
         return members;
     }
 
-    private static int spanOf(ByteFields x, int... row) {
+    private static int spanOf(Subject x, int... row) {
         x.drop();
         Check.put(x, row);
         return x.span();

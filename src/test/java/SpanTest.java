@@ -20,12 +20,12 @@ public final class SpanTest {
         Check.end();
     }
 
-    private static ByteFields made(int bits) {
-        return new ByteFields(bits, bits == 8 ? 29 : 4107);
+    private static Subject made(int bits) {
+        return new Subject(bits, bits == 8 ? 29 : 4107);
     }
 
     /** THE SPAN's members, as the values of x there. */
-    private static List<Integer> spanOf(ByteFields x) {
+    private static List<Integer> spanOf(Subject x) {
         int p = Check.polynomial(x, 0, 1);
         Check.same("forth", x.forth(p), x.told(3));
         List<Integer> members = Check.rowOf(x);
@@ -34,7 +34,7 @@ public final class SpanTest {
     }
 
     private static void spans(int bits) {
-        ByteFields x = made(bits);
+        Subject x = made(bits);
         Check.same("span of none", x.span(), 1);
         Check.same("its members", spanOf(x), List.of(0));
         Check.put(x, 9);
@@ -61,7 +61,7 @@ public final class SpanTest {
     }
 
     private static void refusedSpans(int bits) {
-        ByteFields x = made(bits);
+        Subject x = made(bits);
         Check.put(x, 0);
         Check.refuses(x, STATE, "0", x::span);
         x.drop();
@@ -85,7 +85,7 @@ public final class SpanTest {
     private static void forthAndBack(int bits) {
         Random random = new Random(8);
         for (int n = 0; n <= 6; n++) {
-            ByteFields x = made(bits);
+            Subject x = made(bits);
             for (int k = 0; k < n; k++) {
                 x.put((1 << k) ^ (k > 0 ? random.nextInt(1 << k) : 0));
             }
@@ -121,7 +121,7 @@ public final class SpanTest {
             Check.same("back of zeros", x.degree(x.back()), ByteFields.NONE);
             Check.same("forth of 0", x.forth(x.told(2) - 1), size);
         }
-        ByteFields y = made(bits);
+        Subject y = made(bits);
         Check.put(y, 1, 2);
         y.span();
         int high = Check.ones(y, 64, 5, 0);
@@ -134,7 +134,7 @@ public final class SpanTest {
     }
 
     private static void withoutSpan(int bits) {
-        ByteFields x = made(bits);
+        Subject x = made(bits);
         Check.refuses(x, STATE, "back without a span", x::back);
         int p = Check.polynomial(x, 1, 2);
         Check.put(x, 5);
@@ -154,7 +154,7 @@ public final class SpanTest {
     }
 
     private static void told(int bits) {
-        ByteFields x = made(bits);
+        Subject x = made(bits);
         for (int what = 0; what < 4; what++) {
             Check.same("told " + what, x.told(what), 0);
         }

@@ -192,7 +192,7 @@ final class TermSentences extends Sentences {
     }
 
     /** All calls that neither read THE ROW nor make it, on two polynomials and a matrix of 2 by 1. */
-    private static List<Check.Call> othersThan(ByteFields x) {
+    private static List<Check.Call> othersThan(Subject x) {
         int square = x.matrix(1, 1);
         x.set(square, 0, 0, 7);
         return new ArrayList<>(List.of(x::poly, x::generator, () -> x.product(2, 3), () -> x.quotient(2, 3),
