@@ -9,7 +9,6 @@ import java.util.List;
 import java.util.regex.Matcher;
 import java.util.regex.Pattern;
 import java.util.stream.Stream;
-import javax.tools.ToolProvider;
 
 /** The examples of README.md compile, and each call there answers what is written behind it. */
 public final class ReadmeTest {
@@ -18,7 +17,7 @@ public final class ReadmeTest {
     private static final Pattern ANSWERED =
             Pattern.compile("(?:int (\\w+) = )?(.*);\\s*// (-?\\d+|throws \\w+)(?:: .*)?");
 
-    public static void main(String[] args) throws IOException, ReflectiveOperationException {
+    public static void main(String[] args) throws Exception {
         Path work = Files.createTempDirectory("readme");
         try {
             run(work, examples(Files.readAllLines(README)));
@@ -42,10 +41,10 @@ public final class ReadmeTest {
         return code;
     }
 
-    private static void run(Path work, List<String> code) throws IOException, ReflectiveOperationException {
+    private static void run(Path work, List<String> code) throws Exception {
         Path file = Files.writeString(work.resolve("Examples.java"), program(code));
-        int compiled = ToolProvider.getSystemJavaCompiler().run(null, null, null, "-cp",
-                System.getProperty("java.class.path"), "-d", work.toString(), file.toString());
+        int compiled = new ProcessBuilder("javac", "-encoding", "UTF-8", "-cp", System.getProperty("java.class.path"),
+                "-d", work.toString(), file.toString()).inheritIO().start().waitFor();
         Check.same("compiling the examples", compiled, 0);
         if (compiled != 0) {
             return;
